@@ -16,8 +16,8 @@ public final class PageBoard {
     private static final int DEVICE_WORDS = 0x100000;
     private static final int MOST_STEPS = 5000;
     private static final int MOST_TICKS = 20000;
-    private static final int WIDE = 64;
-    private static final int HIGH = 32;
+    private static final int ROW_PLACES = 64;
+    private static final int ROWS = 32;
 
     private final int[] memory;
     private final Registers registers;
@@ -211,10 +211,10 @@ public final class PageBoard {
     }
 
     public int place(int x, int y) {
-        if (x < 0 || x >= WIDE || y < 0 || y >= HIGH) {
+        if (x < 0 || x >= ROW_PLACES || y < 0 || y >= ROWS) {
             return NONE;
         }
-        return screen.placeOf(y * WIDE + x);
+        return screen.placeOf(y * ROW_PLACES + x);
     }
 
     public int letter(int i) {
@@ -451,12 +451,12 @@ public final class PageBoard {
     /** The serial port, and the latest bytes that came to OUT. */
     private static final class Serial {
         private static final int KEPT = 4000;
+        private static final int ROUND = 4096;
         private static final int SENDING_TICKS = 256;
 
         private final Lines lines;
-        private final byte[] out = new byte[KEPT];
-        private int next;
-        private int held;
+        /** Used round and round: a byte stands at its number modulo ROUND. */
+        private final byte[] out = new byte[ROUND];
         long sent;
         int last;
         int left;
@@ -484,29 +484,18 @@ public final class PageBoard {
         }
 
         void send(int b) {
-            if (next < 0 || next >= KEPT) {
-                next = 0;
-            }
-            out[next] = (byte) b;
-            next = next + 1 == KEPT ? 0 : next + 1;
-            held = held < KEPT ? held + 1 : KEPT;
+            out[(int) sent & ROUND - 1] = (byte) b;
             sent++;
             left = SENDING_TICKS;
             lines.statusB &= ~Lines.TX;
         }
 
         int keptByte(int i) {
-            if (i < 0 || i >= held) {
+            long oldest = Math.max(0, sent - KEPT);
+            if (i < 0 || i >= sent - oldest) {
                 return NONE;
             }
-            int at = next - held + i;
-            if (at < 0) {
-                at += KEPT;
-            }
-            if (at < 0 || at >= KEPT) {
-                return NONE;
-            }
-            return out[at] & 255;
+            return out[(int) (oldest + i) & ROUND - 1] & 255;
         }
 
         void goOn(int ticks) {
@@ -767,7 +756,7 @@ public final class PageBoard {
     /** The PICTURE, and what it is made from. */
     private static final class Screen {
         private static final int FIELD_TICKS = 20000;
-        private static final int PLACES = WIDE * HIGH;
+        private static final int PLACES = ROWS * ROW_PLACES;
         private static final int COLOURS = 16;
         private static final int BORDER_NUMBER = 16;
         private static final int DEPTH_NUMBER = 56;
@@ -808,7 +797,7 @@ public final class PageBoard {
         }
 
         int placeOf(int i) {
-            return i < 0 || i >= PLACES ? NONE : picture[i];
+            return picture[i & PLACES - 1];
         }
 
         void written(int word) {
@@ -1005,7 +994,6 @@ public final class PageBoard {
         private static final int ADDRESS = 4;
         private static final int IRQ = 5;
         private static final int FIQ = 6;
-        private static final int TRAPS = 7;
         private static final int TRAP_TICKS = 4;
 
         private static final int LSL = 0;
@@ -1027,7 +1015,7 @@ public final class PageBoard {
         private final Registers registers;
         private final Bus bus;
         private final Lines lines;
-        private final long[] traps = new long[TRAPS];
+        private final long[] traps = new long[8];
         private final int[] found = new int[16];
         private int a;
         private int word;
@@ -1042,7 +1030,7 @@ public final class PageBoard {
         }
 
         long trapsTaken(int trap) {
-            return trap < 0 || trap >= TRAPS ? NONE : traps[trap];
+            return traps[trap & 7];
         }
 
         /** The TRAP that is due instead of an instruction, or NONE: then the instruction is fetched. */
@@ -1069,9 +1057,7 @@ public final class PageBoard {
             int signsToo = trap == FIQ ? Registers.I | Registers.F : Registers.I;
             registers.become(mode, 14, withSigns(ahead));
             registers.enter(mode, signsToo, 4 * trap + 4);
-            if (trap >= 0 && trap < TRAPS) {
-                traps[trap]++;
-            }
+            traps[trap & 7]++;
             return TRAP_TICKS;
         }
 
@@ -1304,8 +1290,8 @@ public final class PageBoard {
             int n = part(16);
             int base = operand(n, 8);
             int offset = is(BIT_25) ? shiftedByBits(operand(part(0), 8)) : word & 0xFFF;
-            int sum = is(U) ? base + offset : base - offset;
-            int address = is(P) ? sum : base;
+            int moved = is(U) ? base + offset : base - offset;
+            int address = is(P) ? moved : base;
             if (address >>> 26 != 0) {
                 return take(ADDRESS);
             }
@@ -1318,7 +1304,7 @@ public final class PageBoard {
             int d = part(12);
             int v = is(BIT_20) ? loaded(place, address) : given(d);
             if (back) {
-                become(n, sum);
+                become(n, moved);
             }
             if (is(BIT_20)) {
                 becomeOrGoTo(d, v);
@@ -1369,11 +1355,12 @@ public final class PageBoard {
         /** Whether all words are ALLOWED; a word moved may change the ENTRIES, so all are found first. */
         private boolean findAll(int beginning, int k) {
             int mode = registers.mode();
-            for (int i = 0; i < k && i < 16; i++) {
-                found[i] = bus.find(mode, beginning + 4 * i & PC_BITS, !is(BIT_20));
-                if (found[i] == Bus.REFUSED) {
+            for (int i = 0; i < k; i++) {
+                int place = bus.find(mode, beginning + 4 * i & PC_BITS, !is(BIT_20));
+                if (place == Bus.REFUSED) {
                     return false;
                 }
+                found[i & 15] = place;
             }
             return true;
         }

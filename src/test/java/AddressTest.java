@@ -103,6 +103,10 @@ public final class AddressTest {
         // The span of the PICTURE's colours ends at 0x35FFFFF, that of the settings at 0x37FFFFF.
         x.write(0x37FFFF2, 0);
         DUE.is("below 0x3800000 no ENTRY is told", -1, x.board.entry(2, 0));
+        x.map(0, 77, 3);
+        x.write(0x3800000, 0);
+        DUE.is("at 0x3800000 the first one is", 0, x.board.entry(0, 0));
+        DUE.is("and its LEVEL", 0, x.board.entry(0, 1));
         x.map(1, 8191, 0);
         x.poke(2047, 321);
         DUE.is("a PAGE at the end of the span", 321, x.read(0x1FFFFFC));

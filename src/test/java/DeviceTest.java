@@ -26,6 +26,7 @@ public final class DeviceTest {
         fieldBit();
         diskAheadOfField();
         readingByMany();
+        writingByMany();
         DUE.end();
     }
 
@@ -182,6 +183,7 @@ public final class DeviceTest {
         DUE.is("still BUSY", 4, x.board.look(9));
         x.wait(3);
         DUE.is("nothing is copied yet", 0, x.board.peek(2048));
+        DUE.is("BUSY up to the last TICK", 1, x.board.device(DISK + 2));
         DUE.is("DISK is 0", 64, x.board.device(STATUS_B));
         // What the SECTOR has only now is copied.
         x.board.store(15, 1, 152);
@@ -402,5 +404,17 @@ public final class DeviceTest {
         DUE.is("STATUS B has no RX any more", 64, x.get(9));
         DUE.is("REQUEST B", 64, x.get(10));
         DUE.is("MASK B", 255, x.get(11));
+    }
+
+    private static void writingByMany() {
+        Bench x = new Bench();
+        x.put(3, 0, Bench.device(DISK));
+        x.put(3, 1, 7);
+        x.put(3, 2, 9);
+        x.put(3, 3, 2);
+        x.does(Bench.QUIET, Code.many(Code.U, 0, 1, 2, 3));
+        DUE.is("SECTOR", 7, x.board.device(DISK));
+        DUE.is("PAGE", 9, x.board.device(DISK + 1));
+        DUE.is("BUSY, 5 TICKS of this STEP are gone", 4995, x.board.look(9));
     }
 }

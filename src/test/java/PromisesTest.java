@@ -126,19 +126,28 @@ public final class PromisesTest {
         x.writeDevice(0x4001, 1);
         x.writeDevice(0x4002, 2);
         x.writeDevice(0x80001, 65);
+        x.writeDevice(0x80010, 5);
         x.wait(2);
         x.board.reset();
         DUE.is("2: DISK is not BUSY", 0, x.board.look(9));
+        DUE.is("2: no TICKS up to TX", 0, x.board.look(10));
         DUE.is("2: TX is 1", 64, x.board.device(0x80008));
         x.waitByFours(6000);
         DUE.is("2: nothing is copied later", 0, x.board.count(11));
         DUE.is("2: DISK stays 0", 64, x.board.device(0x80008));
+        DUE.is("2: TIMERS do not count", 0, x.board.look(7));
+        x.writeDevice(0x4002, 9);
+        x.board.reset();
+        DUE.is("2: DISK is not WRONG", 0, x.board.device(0x4002));
         // Each fourth TICK counts from RESET on, not from the beginning.
         x.board.reset();
         x.wait(3);
         x.board.reset();
         x.writeDevice(0x80010, 9);
+        x.wait(3);
         DUE.is("2: the fourth TICK is one of the new ones", 65535, x.board.look(7));
+        x.wait(1);
+        DUE.is("2: and so is the eighth", 65534, x.board.look(7));
     }
 
     private static void pokeAndPeek() {

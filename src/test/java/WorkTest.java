@@ -175,6 +175,9 @@ public final class WorkTest {
         byBits(Code.ASR, 0, MAX, Code.C, 0, 0);
         byBits(Code.ROR, 4, 0x12345678, 0, 0x81234567, 1);
         byBits(Code.ROR, 31, 0x40000000, 0, MIN, 1);
+        byBits(Code.ROR, 1, 2, Code.C, 1, 0);
+        byBits(Code.ROR, 4, MIN, Code.C, 0x08000000, 0);
+        byBits(Code.ROR, 0, MIN, 0, 0x40000000, 0);
         byBits(Code.ROR, 0, 3, 0, 1, 1);
         byBits(Code.ROR, 0, 2, Code.C, 0x80000001, 0);
     }
