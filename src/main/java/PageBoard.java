@@ -283,7 +283,7 @@ public final class PageBoard {
         }
 
         private static int slot(int mode, int r) {
-            return SLOTS[(mode & 3) << 4 | r & 15] & 31;
+            return SLOTS[((mode & 3) << 4) | (r & 15)] & 31;
         }
 
         void begin() {
@@ -320,11 +320,11 @@ public final class PageBoard {
         }
 
         int carry() {
-            return kept[R15] >>> 29 & 1;
+            return (kept[R15] >>> 29) & 1;
         }
 
         void goTo(int address) {
-            kept[R15] = signs() | address & PC_BITS;
+            kept[R15] = signs() | (address & PC_BITS);
         }
 
         void setSigns(int word) {
@@ -333,7 +333,7 @@ public final class PageBoard {
         }
 
         void setResultSigns(int result) {
-            change(N | Z, result & N | (result == 0 ? Z : 0));
+            change(N | Z, (result & N) | (result == 0 ? Z : 0));
         }
 
         void setCarryAndOverflow(int carry, int overflow) {
@@ -341,11 +341,11 @@ public final class PageBoard {
         }
 
         void enter(int mode, int signsToo, int vector) {
-            kept[R15] = signs() & ~MODE_BITS | mode | signsToo | vector;
+            kept[R15] = (signs() & ~MODE_BITS) | mode | signsToo | vector;
         }
 
         private void change(int bits, int word) {
-            kept[R15] = kept[R15] & ~bits | word & bits;
+            kept[R15] = (kept[R15] & ~bits) | (word & bits);
         }
     }
 
@@ -393,11 +393,11 @@ public final class PageBoard {
 
         void tell(int address) {
             int e = address & 15;
-            levels[e] = address >>> 8 & 3;
+            levels[e] = (address >>> 8) & 3;
             if ((address & NO_NUMBER_BIT) != 0) {
                 numbers[e] = NONE;
             } else {
-                numbers[e] = address >>> 12 & 0x7FF | (address >>> 10 & 3) << 11;
+                numbers[e] = ((address >>> 12) & 0x7FF) | (((address >>> 10) & 3) << 11);
             }
         }
     }
@@ -430,7 +430,7 @@ public final class PageBoard {
         }
 
         boolean isIrq() {
-            return (statusA & maskA | statusB & maskB) != 0;
+            return ((statusA & maskA) | (statusB & maskB)) != 0;
         }
 
         boolean isFiq() {
@@ -484,7 +484,7 @@ public final class PageBoard {
         }
 
         void send(int b) {
-            out[(int) sent & ROUND - 1] = (byte) b;
+            out[(int) sent & (ROUND - 1)] = (byte) b;
             sent++;
             left = SENDING_TICKS;
             lines.statusB &= ~Lines.TX;
@@ -495,7 +495,7 @@ public final class PageBoard {
             if (i < 0 || i >= sent - oldest) {
                 return NONE;
             }
-            return out[(int) (oldest + i) & ROUND - 1] & 255;
+            return out[(int) (oldest + i) & (ROUND - 1)] & 255;
         }
 
         void goOn(int ticks) {
@@ -567,7 +567,7 @@ public final class PageBoard {
             } else if (k == 1) {
                 page = b;
             } else if (k == STATE && left == 0) {
-                wrong = b != TO_PAGE && b != TO_SECTOR || sector >= SECTORS || page >= SECTORS;
+                wrong = (b != TO_PAGE && b != TO_SECTOR) || sector >= SECTORS || page >= SECTORS;
                 if (wrong) {
                     lines.diskIsReady();
                 } else {
@@ -631,10 +631,10 @@ public final class PageBoard {
         void write(int j, int b) {
             switch (j) {
                 case 0:
-                    latch = latch & 0xFF00 | b;
+                    latch = (latch & 0xFF00) | b;
                     break;
                 case 1:
-                    latch = latch & 0xFF | b << 8;
+                    latch = (latch & 0xFF) | (b << 8);
                     break;
                 case 2:
                     count = latch;
@@ -797,7 +797,7 @@ public final class PageBoard {
         }
 
         int placeOf(int i) {
-            return picture[i & PLACES - 1];
+            return picture[i & (PLACES - 1)];
         }
 
         void written(int word) {
@@ -807,7 +807,7 @@ public final class PageBoard {
             } else if (number == BORDER_NUMBER) {
                 border = word & COLOUR_BITS;
             } else if (number == DEPTH_NUMBER) {
-                depth = word >>> 2 & 3;
+                depth = (word >>> 2) & 3;
             }
         }
 
@@ -828,11 +828,11 @@ public final class PageBoard {
 
         private void makeFromMemory() {
             int size = 1 << depth;
-            int at = start << 4 & BYTE_NUMBERS;
+            int at = (start << 4) & BYTE_NUMBERS;
             int bit = 0;
             for (int i = 0; i < PLACES; i++) {
-                int v = byteAt(at) >>> bit & (1 << size) - 1;
-                picture[i] = colours[v & 15] ^ (v >>> 4) << 8;
+                int v = (byteAt(at) >>> bit) & ((1 << size) - 1);
+                picture[i] = colours[v & 15] ^ ((v >>> 4) << 8);
                 bit += size;
                 if (bit == 8) {
                     bit = 0;
@@ -842,11 +842,11 @@ public final class PageBoard {
         }
 
         private int byteAt(int at) {
-            return memory[at >>> 2 & WORDS - 1] >>> ((at & 3) << 3) & 255;
+            return (memory[(at >>> 2) & (WORDS - 1)] >>> ((at & 3) << 3)) & 255;
         }
 
         private int behind(int at) {
-            int last = (high << 4) + 15 & BYTE_NUMBERS;
+            int last = ((high << 4) + 15) & BYTE_NUMBERS;
             return (at == last ? low << 4 : at + 1) & BYTE_NUMBERS;
         }
     }
@@ -883,15 +883,15 @@ public final class PageBoard {
         int find(int mode, int address, boolean writing) {
             if (address < MEMORY_ITSELF) {
                 int e = entries.withNumber(address >>> 12);
-                if (e == NONE || mode == USER_MODE && !entries.letsUser(e, writing)) {
+                if (e == NONE || (mode == USER_MODE && !entries.letsUser(e, writing))) {
                     return REFUSED;
                 }
-                return e * PAGE_WORDS + (address >>> 2 & PAGE_WORDS - 1);
+                return e * PAGE_WORDS + ((address >>> 2) & (PAGE_WORDS - 1));
             }
             if (mode == USER_MODE) {
                 return REFUSED;
             }
-            return address < DEVICES ? address >>> 2 & WORDS - 1 : OUTSIDE;
+            return address < DEVICES ? (address >>> 2) & (WORDS - 1) : OUTSIDE;
         }
 
         int fetch(int found) {
@@ -905,7 +905,7 @@ public final class PageBoard {
             if (address < DEVICES || address >= COLOURS) {
                 return 0;
             }
-            int w = address >>> 2 & DEVICE_WORDS - 1;
+            int w = (address >>> 2) & (DEVICE_WORDS - 1);
             int v = deviceWord(w);
             if (isOfController(w)) {
                 controller.isRead(w & 31);
@@ -924,7 +924,7 @@ public final class PageBoard {
         }
 
         void write(int found, int address, int v) {
-            int w = address >>> 2 & DEVICE_WORDS - 1;
+            int w = (address >>> 2) & (DEVICE_WORDS - 1);
             if (isInMemory(found)) {
                 memory[found] = v;
             } else if (address >= ENTRIES) {
@@ -944,7 +944,7 @@ public final class PageBoard {
             int b = v & 255;
             if (isInMemory(found)) {
                 int shift = (address & 3) << 3;
-                memory[found] = memory[found] & ~(255 << shift) | b << shift;
+                memory[found] = (memory[found] & ~(255 << shift)) | (b << shift);
             } else {
                 write(found, address, b * 0x1010101);
             }
@@ -963,8 +963,8 @@ public final class PageBoard {
         }
 
         private void tellSetting(int address) {
-            int told = address >>> 2 & 0x7FFF;
-            switch (address >>> 17 & 7) {
+            int told = (address >>> 2) & 0x7FFF;
+            switch ((address >>> 17) & 7) {
                 case 0:
                     screen.start = told;
                     break;
@@ -975,8 +975,8 @@ public final class PageBoard {
                     screen.high = told;
                     break;
                 case 7:
-                    screen.video = address >>> 10 & 1;
-                    entries.os = address >>> 12 & 1;
+                    screen.video = (address >>> 10) & 1;
+                    entries.os = (address >>> 12) & 1;
                     break;
                 default:
                     break;
@@ -1004,8 +1004,10 @@ public final class PageBoard {
         private static final int BIT_4 = 1 << 4;
         private static final int BITS_4_AND_7 = 0x90;
         private static final int NOT_MULTIPLY_BITS = 0x1C00060;
+        /** S of WORK and MULTIPLY, L of a TRANSFER. */
         private static final int BIT_20 = 1 << 20;
         private static final int W = 1 << 21;
+        /** B of a TRANSFER of one, S of one of many. */
         private static final int BIT_22 = 1 << 22;
         private static final int U = 1 << 23;
         private static final int P = 1 << 24;
@@ -1068,7 +1070,7 @@ public final class PageBoard {
                 notSo++;
                 return 1;
             }
-            switch (word >>> 25 & 7) {
+            switch ((word >>> 25) & 7) {
                 case 0:
                     if ((word & BITS_4_AND_7) != BITS_4_AND_7) {
                         return work();
@@ -1115,11 +1117,11 @@ public final class PageBoard {
         }
 
         private int part(int lowest) {
-            return word >>> lowest & 15;
+            return (word >>> lowest) & 15;
         }
 
         private int pcAhead(int ahead) {
-            return a + ahead & PC_BITS;
+            return (a + ahead) & PC_BITS;
         }
 
         private int withSigns(int ahead) {
@@ -1238,21 +1240,21 @@ public final class PageBoard {
             int m = part(0);
             int v = m == 15 ? withSigns(ahead) : operand(m, ahead);
             if (byRegister) {
-                return shifted(v, word >>> 5 & 3, operand(part(8), 8) & 255);
+                return shifted(v, (word >>> 5) & 3, operand(part(8), 8) & 255);
             }
             return shiftedByBits(v);
         }
 
         /** By bits 7 .. 11, of which 0 means something else for each kind. */
         private int shiftedByBits(int v) {
-            int kind = word >>> 5 & 3;
-            int k = word >>> 7 & 31;
+            int kind = (word >>> 5) & 3;
+            int k = (word >>> 7) & 31;
             if (k != 0 || kind == LSL) {
                 return shifted(v, kind, k);
             }
             if (kind == ROR) {
                 carry = v & 1;
-                return v >>> 1 | registers.carry() << 31;
+                return (v >>> 1) | (registers.carry() << 31);
             }
             return shifted(v, kind, 32);
         }
@@ -1264,13 +1266,13 @@ public final class PageBoard {
             }
             switch (kind) {
                 case LSL:
-                    carry = k <= 32 ? v >>> 32 - k & 1 : 0;
+                    carry = k <= 32 ? (v >>> (32 - k)) & 1 : 0;
                     return k < 32 ? v << k : 0;
                 case LSR:
-                    carry = k <= 32 ? v >>> k - 1 & 1 : 0;
+                    carry = k <= 32 ? (v >>> (k - 1)) & 1 : 0;
                     return k < 32 ? v >>> k : 0;
                 case ASR:
-                    carry = v >> Math.min(k - 1, 31) & 1;
+                    carry = (v >> Math.min(k - 1, 31)) & 1;
                     return v >> Math.min(k, 31);
                 default:
                     int result = turned(v, k & 31);
@@ -1280,7 +1282,7 @@ public final class PageBoard {
         }
 
         private static int turned(int v, int k) {
-            return k == 0 ? v : v >>> k | v << 32 - k;
+            return k == 0 ? v : (v >>> k) | (v << (32 - k));
         }
 
         private int transferOne() {
@@ -1356,7 +1358,7 @@ public final class PageBoard {
         private boolean findAll(int beginning, int k) {
             int mode = registers.mode();
             for (int i = 0; i < k; i++) {
-                int place = bus.find(mode, beginning + 4 * i & PC_BITS, !is(BIT_20));
+                int place = bus.find(mode, (beginning + 4 * i) & PC_BITS, !is(BIT_20));
                 if (place == Bus.REFUSED) {
                     return false;
                 }
@@ -1372,7 +1374,7 @@ public final class PageBoard {
             for (int r = 0; r < 15; r++) {
                 if (is(1 << r)) {
                     registers.become(bank, r, bus.read(found[i & 15], address));
-                    address = address + 4 & PC_BITS;
+                    address = (address + 4) & PC_BITS;
                     i++;
                 }
             }
@@ -1396,7 +1398,7 @@ public final class PageBoard {
                     boolean asItWas = i == 0 && r == n && registers.isOneFor(bank, mode, r);
                     int v = r == 15 ? withSigns(12) : asItWas ? base : registers.of(bank, r);
                     bus.write(found[i & 15], address, v);
-                    address = address + 4 & PC_BITS;
+                    address = (address + 4) & PC_BITS;
                     i++;
                 }
             }
@@ -1406,7 +1408,7 @@ public final class PageBoard {
             if (is(P)) {
                 become(14, withSigns(4));
             }
-            registers.goTo(a + 8 + (word << 8 >> 6));
+            registers.goTo(a + 8 + ((word << 8) >> 6));
             return 4;
         }
     }
