@@ -90,13 +90,14 @@ final class Bench {
         write(device(w), v);
     }
 
-    /** Goes on by so many TICKS with instructions that are never so, one TICK each. */
+    /**
+     * Goes on by so many TICKS, one each STEP: from 0x3000000 on each fetch is a 0, which is an
+     * instruction that is not so without Z.
+     */
     void wait(int ticks) {
-        poke(SELDOM_WORD, Code.NEVER);
-        poke(SELDOM_WORD + 1, Code.NEVER);
-        for (int gone = 0; gone < ticks; gone += 2) {
-            put(0, 15, QUIET | SELDOM);
-            board.step(Math.min(2, ticks - gone));
+        for (int gone = 0; gone < ticks; gone += 20000) {
+            put(0, 15, QUIET | 0x3000000);
+            board.run(Math.min(20000, ticks - gone));
         }
     }
 
