@@ -30,6 +30,7 @@ public final class AddressEdgesTest {
         entryBits();
         addressAsItIs();
         pagesFoundAhead();
+        reset();
         DUE.end();
     }
 
@@ -466,5 +467,36 @@ public final class AddressEdgesTest {
         y.doesAt(0x2000100, QUIET, Code.many(Code.U, 5, 6, 7));
         DUE.is("OS by the last word ahead of the ENTRIES", 1, y.board.look(2));
         DUE.is("ENTRY 0 by the next one", 0, y.board.entry(0, 0) + y.board.entry(0, 1));
+    }
+
+    /**
+     * "RESET: ENTRY 0 has NUMBER 0, LEVEL 0, the others none and 0; COLOURS, BORDER, DEPTH, START, LOW, HIGH, VIDEO, OS
+     * are 0.": of a new object and behind reset().
+     */
+    private static void reset() {
+        Bench x = new Bench();
+        isReset("a new object", x.board);
+        for (int e = 0; e < 16; e++) {
+            x.map(e, 8191 - e, 3);
+        }
+        for (int number : new int[] {0, 15, 16, 56}) {
+            x.write(0x3400000, number << 26 | 0x1FFF);
+        }
+        for (int k : new int[] {0, 1, 2, 7}) {
+            x.write(0x3600000 | k << 17 | 0x1FFFC, 0);
+        }
+        x.board.reset();
+        isReset("behind reset()", x.board);
+    }
+
+    private static void isReset(String name, PageBoard b) {
+        for (int e = 0; e < 16; e++) {
+            DUE.is(name + ": NUMBER " + e, e == 0 ? 0 : PageBoard.NONE, b.entry(e, 0));
+            DUE.is(name + ": LEVEL " + e, 0, b.entry(e, 1));
+            DUE.is(name + ": COLOUR " + e, 0, b.look(16 + e));
+        }
+        for (int what = 0; what <= 6; what++) {
+            DUE.is(name + ": look " + what, 0, b.look(what));
+        }
     }
 }

@@ -49,6 +49,8 @@ public final class DeviceEdgesTest {
         fieldBehindHigh();
         fieldValues();
         orderOfOneTick();
+        reset();
+        resetEndsWhatIsUnderWay();
         DUE.end();
     }
 
@@ -784,5 +786,53 @@ public final class DeviceEdgesTest {
         x.wait(1);
         DUE.is("DISK, TX", 0x48, x.board.device(STATUS_B));
         DUE.is("FIELD and both TIMERS", 0xE8, x.board.device(STATUS_A));
+    }
+
+    // ---- all of them
+
+    /** "RESET: all 0 but as told"; "7 always 1"; "6 TX (1 at RESET)": of a new object and behind reset(). */
+    private static void reset() {
+        Bench x = new Bench();
+        isReset("a new object", x.board);
+        x.board.key(0xFF);
+        for (int k = 0; k < 24; k++) {
+            x.writeDevice(0x80000 + k, 0xFF);
+        }
+        x.writeDevice(SECTOR, 0xFF);
+        x.writeDevice(PAGE, 0xFF);
+        x.writeDevice(COMMAND, 0xFF);
+        x.board.reset();
+        isReset("behind reset()", x.board);
+    }
+
+    private static void isReset(String name, PageBoard b) {
+        for (int k = 0; k < 32; k++) {
+            int want = k == 4 || k == 12 ? 0x80 : k == 8 ? 0x40 : 0;
+            DUE.is(name + ": word " + k, want, b.device(0x80000 + k));
+        }
+        for (int k = 0; k < 3; k++) {
+            DUE.is(name + ": DISK's word " + k, 0, b.device(SECTOR + k));
+        }
+        for (int what : new int[] {7, 8, 9, 10, 12, 13}) {
+            DUE.is(name + ": look " + what, 0, b.look(what));
+        }
+        DUE.is(name + ": up to the FIELD's end", 20000, b.look(11));
+    }
+
+    /** "RESET: .. devices begin anew": LATCH, which no word shows, TX and the DISK's copy are ended by it, too. */
+    private static void resetEndsWhatIsUnderWay() {
+        Bench x = new Bench();
+        x.writeDevice(0x80010, 1);
+        x.writeDevice(0x80015, 1);
+        x.writeDevice(SERIAL, 1);
+        x.writeDevice(COMMAND, 2);
+        x.board.reset();
+        DUE.is("TX is 1 at once", 0x40, x.board.device(STATUS_B));
+        DUE.is("not BUSY", 0, x.board.device(COMMAND));
+        x.wait(6000);
+        DUE.is("TIMERS without LATCH", 0, x.board.look(7) + x.board.look(8));
+        DUE.is("no TIMER's bit", 0x80, x.board.device(STATUS_A));
+        DUE.is("nothing was copied", 0, x.board.count(11));
+        DUE.is("DISK stays 0", 0x40, x.board.device(STATUS_B));
     }
 }

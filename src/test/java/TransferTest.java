@@ -236,7 +236,8 @@ public final class TransferTest {
         DUE.is("what comes to Rn counts", 4321, x.get(2));
         x.put(3, 2, 0x304);
         x.does(Bench.QUIET, Code.many(Code.U | Code.L, 2, 0, 14));
-        DUE.is("R0 and R14 are loaded, too", 4321, x.get(0) + x.get(14));
+        DUE.is("R0 is loaded, too", 4321, x.get(0));
+        DUE.is("R14 is loaded, too", 0, x.get(14));
     }
 
     private static void r15OfMany() {

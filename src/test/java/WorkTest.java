@@ -24,6 +24,7 @@ public final class WorkTest {
         DUE.end();
     }
 
+    /** "0 Z, 1 not Z, 2 C, .. 14 always, 15 never": each by each N, Z, C, V; "(1 TICK)" */
     private static void conditions() {
         for (int flags = 0; flags < 16; flags++) {
             boolean n = (flags & 8) != 0;
@@ -117,6 +118,7 @@ public final class WorkTest {
         DUE.is("RSC 0, MIN - 1", 3, flags(0, Code.RSC, 0, MIN));
     }
 
+    /** "C of others the OPERAND's carry, V stays." */
     private static void flagsOfOthers() {
         int[] kinds = {Code.AND, Code.EOR, Code.TST, Code.TEQ, Code.ORR, Code.MOV, Code.BIC, Code.MVN};
         for (int kind : kinds) {
@@ -221,6 +223,10 @@ public final class WorkTest {
         byRegister(Code.ROR, 0x1FC, 0x12345678, Code.C, 0x23456781, 0);
     }
 
+    /**
+     * "As an operand R15 is A + 8 (only the bits of PC)"; "Rm, R15 being A + 8 with all SIGNS"; "R15 as x and as Rm is
+     * A + 12 then"
+     */
     private static void r15AsOperand() {
         int signs = Bench.QUIET | Code.N | Code.C;
         X.does(signs, Code.work(Code.MOV, 0, 2, 0, 15));
